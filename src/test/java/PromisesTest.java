@@ -538,6 +538,20 @@ public final class PromisesTest {
                 escalate 0 0 = 3
                 mode 0 0 = 4
                 """);
+        run("6: from the top to the lowest level", """
+                begin 1 = 0
+                lock 0 0 1 = 1
+                lock 0 1 0 = 1
+                lock 0 4 1 = 1
+                lock 0 20 1 = 1
+                lock 0 81 0 = 1
+                lock 0 84 4 = 1
+                escalate 0 0 = 5
+                mode 0 0 = 4
+                mode 0 81 = -1
+                mode 0 84 = -1
+                told 0 2 = 1
+                """);
         run("6: nothing below", """
                 begin 1 = 0
                 lock 0 0 0 = 1

@@ -1,15 +1,5 @@
-import java.util.Map;
-
-/** Runs of calls by hand, promise by promise. A row of a run is: a call, "=", and its answer or exception. */
+/** Runs of calls by hand, promise by promise. */
 public final class PromisesTest {
-    private static final Map<String, Class<?>> EXCEPTIONS = Map.of(
-            "IndexOutOfBounds", IndexOutOfBoundsException.class,
-            "IllegalArgument", IllegalArgumentException.class,
-            "IllegalState", IllegalStateException.class);
-
-    private static int rows = 0;
-    private static int wrong = 0;
-
     public static void main(String[] args) {
         newObject();
         begin();
@@ -28,14 +18,11 @@ public final class PromisesTest {
         waitsFor();
         count();
         astray();
-        System.out.println(rows + " rows, " + wrong + " wrong");
-        if (wrong != 0 || rows == 0) {
-            System.exit(1);
-        }
+        Script.finish();
     }
 
     private static void newObject() {
-        run("1: no transactions", """
+        Script.run("1: no transactions", """
                 count 0 = 0
                 count 1 = 0
                 count 2 = 0
@@ -59,11 +46,11 @@ public final class PromisesTest {
                 """);
         LockDesk one = new LockDesk();
         one.begin(1);
-        due("1: objects share nothing", new LockDesk().count(0), 0);
+        Script.due("1: objects share nothing", new LockDesk().count(0), 0);
     }
 
     private static void begin() {
-        run("2: numbers and priorities", """
+        Script.run("2: numbers and priorities", """
                 begin 0 = 0
                 begin 99 = 1
                 begin 50 = 2
@@ -77,7 +64,7 @@ public final class PromisesTest {
                 count 0 = 3
                 count 1 = 3
                 """);
-        run("2: wrong priorities change nothing", """
+        Script.run("2: wrong priorities change nothing", """
                 begin -1 = IllegalArgument
                 begin 100 = IllegalArgument
                 begin 2147483647 = IllegalArgument
@@ -87,19 +74,19 @@ public final class PromisesTest {
                 """);
         LockDesk desk = new LockDesk();
         for (int i = 0; i < 60; i++) {
-            row(desk, "2: sixty", "begin 3 = " + i);
+            Script.row(desk, "2: sixty", "begin 3 = " + i);
         }
-        row(desk, "2: no more than sixty", "begin 3 = IllegalState");
-        row(desk, "2: the first of two exceptions", "begin 100 = IllegalArgument");
-        row(desk, "2: nor when one has ended", "commit 5 = 0");
-        row(desk, "2: nor when one has ended", "begin 3 = IllegalState");
-        row(desk, "2: the last one is there", "lock 59 0 4 = 1");
-        row(desk, "2: the last one is there", "told 60 0 = IndexOutOfBounds");
-        row(desk, "2: nothing changed", "count 0 = 60");
+        Script.row(desk, "2: no more than sixty", "begin 3 = IllegalState");
+        Script.row(desk, "2: the first of two exceptions", "begin 100 = IllegalArgument");
+        Script.row(desk, "2: nor when one has ended", "commit 5 = 0");
+        Script.row(desk, "2: nor when one has ended", "begin 3 = IllegalState");
+        Script.row(desk, "2: the last one is there", "lock 59 0 4 = 1");
+        Script.row(desk, "2: the last one is there", "told 60 0 = IndexOutOfBounds");
+        Script.row(desk, "2: nothing changed", "count 0 = 60");
     }
 
     private static void lockExceptions() {
-        run("3: exceptions, the first of several, and nothing changes", """
+        Script.run("3: exceptions, the first of several, and nothing changes", """
                 begin 1 = 0
                 lock -1 0 0 = IndexOutOfBounds
                 lock 1 0 0 = IndexOutOfBounds
@@ -136,11 +123,11 @@ public final class PromisesTest {
             {0, 1, 2, 3, 4}, {1, 1, 3, 3, 4}, {2, 3, 2, 3, 4}, {3, 3, 3, 3, 4}, {4, 4, 4, 4, 4}};
         for (int held = 0; held < 5; held++) {
             for (int asked = 0; asked < 5; asked++) {
-                run("3: the least above", "begin 1 = 0\nlock 0 0 " + held + " = 1\nlock 0 0 " + asked
+                Script.run("3: the least above", "begin 1 = 0\nlock 0 0 " + held + " = 1\nlock 0 0 " + asked
                         + " = 1\nmode 0 0 = " + leastAbove[held][asked] + "\ntold 0 0 = 0\ntold 0 2 = 1");
             }
         }
-        run("3: what is held already is no request", """
+        Script.run("3: what is held already is no request", """
                 begin 1 = 0
                 begin 1 = 1
                 lock 0 0 2 = 1
@@ -157,15 +144,7 @@ public final class PromisesTest {
     }
 
     private static void lockBelow() {
-        int[] places = {1, 4, 5, 8, 20, 21, 24, 84};
-        for (int object : places) {
-            for (int above = -1; above < 5; above++) {
-                for (int asked = 0; asked < 5; asked++) {
-                    lockBelow(object, above, asked);
-                }
-            }
-        }
-        run("3: only the one above counts", """
+        Script.run("3: only the one above counts", """
                 begin 1 = 0
                 lock 0 0 4 = 1
                 lock 0 5 0 = IllegalState
@@ -178,37 +157,17 @@ public final class PromisesTest {
                 """);
     }
 
-    private static void lockBelow(int object, int above, int asked) {
-        LockDesk desk = new LockDesk();
-        String title = "3: below one held in " + above;
-        row(desk, title, "begin 1 = 0");
-        int upper = (object - 1) / 4;
-        if (upper > 0 && (upper - 1) / 4 > 0) {
-            row(desk, title, "lock 0 0 1 = 1");
-        }
-        if (upper > 0) {
-            row(desk, title, "lock 0 " + (upper - 1) / 4 + " 1 = 1");
-        }
-        if (above >= 0) {
-            row(desk, title, "lock 0 " + upper + " " + above + " = 1");
-        }
-        boolean reads = asked == 0 || asked == 2;
-        boolean may = reads ? above >= 0 : above == 1 || above == 3 || above == 4;
-        row(desk, title, "lock 0 " + object + " " + asked + " = " + (may ? "1" : "IllegalState"));
-        row(desk, title, "mode 0 " + object + " = " + (may ? asked : -1));
-    }
-
     private static void lockAndQueue() {
         String[] together = {"11110", "11000", "10100", "10000", "00000"};
         for (int held = 0; held < 5; held++) {
             for (int asked = 0; asked < 5; asked++) {
                 char answer = together[held].charAt(asked);
-                run("3: what goes together", "begin 1 = 0\nbegin 1 = 1\nlock 0 0 " + held + " = 1\nlock 1 0 "
+                Script.run("3: what goes together", "begin 1 = 0\nbegin 1 = 1\nlock 0 0 " + held + " = 1\nlock 1 0 "
                         + asked + " = " + answer + "\nmode 1 0 = " + (answer == '1' ? asked : -1)
                         + "\ncount 6 = " + (answer == '1' ? 2 : 1));
             }
         }
-        run("3: nobody overtakes", """
+        Script.run("3: nobody overtakes", """
                 begin 1 = 0
                 begin 1 = 1
                 begin 1 = 2
@@ -218,7 +177,7 @@ public final class PromisesTest {
                 at 0 0 true = 1
                 at 0 1 true = 2
                 """);
-        run("3: those that hold the object go before others, behind their own kind", """
+        Script.run("3: those that hold the object go before others, behind their own kind", """
                 begin 1 = 0
                 begin 2 = 1
                 begin 3 = 2
@@ -242,7 +201,7 @@ public final class PromisesTest {
                 mode 0 0 = 1
                 mode 1 0 = 1
                 """);
-        run("3: one that wants more is granted before those that wait", """
+        Script.run("3: one that wants more is granted before those that wait", """
                 begin 1 = 0
                 begin 1 = 1
                 lock 0 0 0 = 1
@@ -255,7 +214,7 @@ public final class PromisesTest {
     }
 
     private static void lockAndCircles() {
-        run("3: two in a circle, the asking one is given up", """
+        Script.run("3: two in a circle, the asking one is given up", """
                 begin 5 = 0
                 begin 5 = 1
                 lock 0 0 2 = 1
@@ -271,7 +230,7 @@ public final class PromisesTest {
                 count 6 = 2
                 count 7 = 1
                 """);
-        run("3: two in a circle, the other one is given up", """
+        Script.run("3: two in a circle, the other one is given up", """
                 begin 4 = 0
                 begin 5 = 1
                 lock 0 0 2 = 1
@@ -286,7 +245,7 @@ public final class PromisesTest {
                 count 6 = 2
                 count 7 = 1
                 """);
-        run("3: of several with the least priority, the greatest number", """
+        Script.run("3: of several with the least priority, the greatest number", """
                 begin 5 = 0
                 begin 4 = 1
                 begin 4 = 2
@@ -308,7 +267,7 @@ public final class PromisesTest {
                 told 0 0 = 1
                 told 3 0 = 1
                 """);
-        run("3: as many are given up as it takes", """
+        Script.run("3: as many are given up as it takes", """
                 begin 9 = 0
                 begin 3 = 1
                 begin 4 = 2
@@ -327,7 +286,7 @@ public final class PromisesTest {
                 count 7 = 1
                 many 0 false = 1
                 """);
-        run("3: no circle left, but it waits", """
+        Script.run("3: no circle left, but it waits", """
                 begin 9 = 0
                 begin 3 = 1
                 begin 1 = 2
@@ -344,7 +303,7 @@ public final class PromisesTest {
                 waitsFor 0 = 4
                 count 5 = 1
                 """);
-        run("3: who waits for a circle, or is waited for, is not of it", """
+        Script.run("3: who waits for a circle, or is waited for, is not of it", """
                 begin 0 = 0
                 begin 0 = 1
                 begin 8 = 2
@@ -367,7 +326,7 @@ public final class PromisesTest {
                 waitsFor 3 = 2
                 count 5 = 1
                 """);
-        run("3: a circle by the queue alone", """
+        Script.run("3: a circle by the queue alone", """
                 begin 5 = 0
                 begin 6 = 1
                 begin 7 = 2
@@ -387,7 +346,7 @@ public final class PromisesTest {
     }
 
     private static void commit() {
-        run("4: what was held is served, and counted", """
+        Script.run("4: what was held is served, and counted", """
                 begin 1 = 0
                 begin 1 = 1
                 begin 1 = 2
@@ -412,7 +371,7 @@ public final class PromisesTest {
                 count 7 = 3
                 many 0 false = 3
                 """);
-        run("4: served only as far as it goes", """
+        Script.run("4: served only as far as it goes", """
                 begin 1 = 0
                 begin 1 = 1
                 begin 1 = 2
@@ -429,7 +388,7 @@ public final class PromisesTest {
                 commit 2 = 1
                 commit 3 = 0
                 """);
-        run("4: exceptions change nothing", """
+        Script.run("4: exceptions change nothing", """
                 begin 1 = 0
                 begin 1 = 1
                 lock 0 0 4 = 1
@@ -448,7 +407,7 @@ public final class PromisesTest {
     }
 
     private static void abort() {
-        run("5: one that waits is out of the queue, and those behind it are served", """
+        Script.run("5: one that waits is out of the queue, and those behind it are served", """
                 begin 1 = 0
                 begin 1 = 1
                 begin 1 = 2
@@ -467,7 +426,7 @@ public final class PromisesTest {
                 count 5 = 0
                 count 7 = 2
                 """);
-        run("5: what it held, and what it waited for", """
+        Script.run("5: what it held, and what it waited for", """
                 begin 1 = 0
                 begin 1 = 1
                 begin 1 = 2
@@ -486,7 +445,7 @@ public final class PromisesTest {
                 mode 3 2 = 4
                 mode 1 2 = -1
                 """);
-        run("5: exceptions change nothing", """
+        Script.run("5: exceptions change nothing", """
                 abort 0 = IndexOutOfBounds
                 begin 1 = 0
                 abort -1 = IndexOutOfBounds
@@ -502,7 +461,7 @@ public final class PromisesTest {
     }
 
     private static void escalate() {
-        run("6: those below, and below those, in S", """
+        Script.run("6: those below, and below those, in S", """
                 begin 1 = 0
                 lock 0 0 0 = 1
                 lock 0 1 0 = 1
@@ -522,10 +481,10 @@ public final class PromisesTest {
                 """);
         for (int mode = 0; mode < 5; mode++) {
             boolean writes = mode == 1 || mode == 3 || mode == 4;
-            run("6: S or X", "begin 1 = 0\nlock 0 0 1 = 1\nlock 0 1 1 = 1\nlock 0 8 " + mode
+            Script.run("6: S or X", "begin 1 = 0\nlock 0 0 1 = 1\nlock 0 1 1 = 1\nlock 0 8 " + mode
                     + " = 1\nescalate 0 1 = 1\nmode 0 1 = " + (writes ? 4 : 3) + "\nmode 0 0 = 1");
         }
-        run("6: a write far below", """
+        Script.run("6: a write far below", """
                 begin 1 = 0
                 lock 0 0 1 = 1
                 lock 0 4 1 = 1
@@ -538,7 +497,7 @@ public final class PromisesTest {
                 escalate 0 0 = 3
                 mode 0 0 = 4
                 """);
-        run("6: from the top to the lowest level", """
+        Script.run("6: from the top to the lowest level", """
                 begin 1 = 0
                 lock 0 0 1 = 1
                 lock 0 1 0 = 1
@@ -552,7 +511,7 @@ public final class PromisesTest {
                 mode 0 84 = -1
                 told 0 2 = 1
                 """);
-        run("6: nothing below", """
+        Script.run("6: nothing below", """
                 begin 1 = 0
                 lock 0 0 0 = 1
                 escalate 0 0 = 0
@@ -561,7 +520,7 @@ public final class PromisesTest {
                 escalate 0 0 = 0
                 mode 0 0 = 4
                 """);
-        run("6: it does not go", """
+        Script.run("6: it does not go", """
                 begin 1 = 0
                 begin 1 = 1
                 lock 0 0 1 = 1
@@ -577,7 +536,7 @@ public final class PromisesTest {
                 escalate 0 0 = 1
                 mode 0 0 = 3
                 """);
-        run("6: the queue is not asked", """
+        Script.run("6: the queue is not asked", """
                 begin 1 = 0
                 begin 1 = 1
                 begin 1 = 2
@@ -598,7 +557,7 @@ public final class PromisesTest {
                 many 1 true = 1
                 astray = 0
                 """);
-        run("6: only what stands below the object", """
+        Script.run("6: only what stands below the object", """
                 begin 1 = 0
                 lock 0 0 1 = 1
                 lock 0 1 1 = 1
@@ -618,7 +577,7 @@ public final class PromisesTest {
                 mode 0 17 = 4
                 mode 0 1 = 1
                 """);
-        run("6: exceptions change nothing", """
+        Script.run("6: exceptions change nothing", """
                 begin 1 = 0
                 lock 0 0 0 = 1
                 escalate -1 0 = IndexOutOfBounds
@@ -643,7 +602,7 @@ public final class PromisesTest {
     }
 
     private static void mode() {
-        run("7: what is held, not what is wanted", """
+        Script.run("7: what is held, not what is wanted", """
                 begin 1 = 0
                 begin 1 = 1
                 mode 0 0 = -1
@@ -663,7 +622,7 @@ public final class PromisesTest {
     }
 
     private static void told() {
-        run("8: told", """
+        Script.run("8: told", """
                 begin 7 = 0
                 begin 8 = 1
                 lock 0 0 1 = 1
@@ -693,7 +652,7 @@ public final class PromisesTest {
                 told 1 1 = 8
                 told 1 2 = 0
                 """);
-        run("8: what is wanted is the least above", """
+        Script.run("8: what is wanted is the least above", """
                 begin 7 = 0
                 begin 8 = 1
                 lock 0 0 1 = 1
@@ -705,7 +664,7 @@ public final class PromisesTest {
     }
 
     private static void many() {
-        run("9: many", """
+        Script.run("9: many", """
                 many -1 false = IndexOutOfBounds
                 many 85 false = IndexOutOfBounds
                 many -1 true = IndexOutOfBounds
@@ -727,7 +686,7 @@ public final class PromisesTest {
     }
 
     private static void at() {
-        run("10: holders by numbers, a queue in its order", """
+        Script.run("10: holders by numbers, a queue in its order", """
                 begin 1 = 0
                 begin 1 = 1
                 begin 1 = 2
@@ -756,7 +715,7 @@ public final class PromisesTest {
     }
 
     private static void waitsFor() {
-        run("11: holders in the way, and all that stand before", """
+        Script.run("11: holders in the way, and all that stand before", """
                 waitsFor -1 = IndexOutOfBounds
                 begin 1 = 0
                 begin 1 = 1
@@ -780,16 +739,16 @@ public final class PromisesTest {
                 """);
         LockDesk desk = new LockDesk();
         for (int i = 0; i < 60; i++) {
-            row(desk, "11: sixty", "begin 3 = " + i);
-            row(desk, "11: sixty", "lock " + i + " 0 4 = " + (i == 0 ? 1 : 0));
+            Script.row(desk, "11: sixty", "begin 3 = " + i);
+            Script.row(desk, "11: sixty", "lock " + i + " 0 4 = " + (i == 0 ? 1 : 0));
         }
-        row(desk, "11: bits over 31", "waitsFor 59 = " + ((1L << 59) - 1));
-        row(desk, "11: bits over 31", "at 0 58 true = 59");
-        row(desk, "11: sixty", "abort 59 = 0");
+        Script.row(desk, "11: bits over 31", "waitsFor 59 = " + ((1L << 59) - 1));
+        Script.row(desk, "11: bits over 31", "at 0 58 true = 59");
+        Script.row(desk, "11: sixty", "abort 59 = 0");
     }
 
     private static void count() {
-        run("12: count", """
+        Script.run("12: count", """
                 begin 1 = 0
                 begin 2 = 1
                 begin 3 = 2
@@ -834,7 +793,7 @@ public final class PromisesTest {
     }
 
     private static void astray() {
-        run("13: nothing goes astray", """
+        Script.run("13: nothing goes astray", """
                 begin 1 = 0
                 begin 1 = 1
                 begin 1 = 2
@@ -851,58 +810,5 @@ public final class PromisesTest {
                 abort 0 = 1
                 astray = 0
                 """);
-    }
-
-    private static void run(String title, String script) {
-        LockDesk desk = new LockDesk();
-        for (String line : script.strip().split("\n")) {
-            row(desk, title, line.strip());
-        }
-    }
-
-    private static void row(LockDesk desk, String title, String row) {
-        String[] sides = row.split(" = ");
-        String want = sides[1];
-        rows++;
-        String got;
-        try {
-            got = Long.toString(call(desk, sides[0].split(" ")));
-        } catch (RuntimeException e) {
-            got = e.getClass() == EXCEPTIONS.get(want) ? want : e.getClass().getName();
-        }
-        if (!got.equals(want)) {
-            wrong++;
-            System.out.println(title + ": " + sides[0] + " answered " + got + ", due is " + want);
-        }
-    }
-
-    private static void due(String title, long got, long want) {
-        rows++;
-        if (got != want) {
-            wrong++;
-            System.out.println(title + ": " + got + ", due is " + want);
-        }
-    }
-
-    private static long call(LockDesk desk, String[] words) {
-        switch (words[0]) {
-            case "begin": return desk.begin(number(words[1]));
-            case "lock": return desk.lock(number(words[1]), number(words[2]), number(words[3]));
-            case "commit": return desk.commit(number(words[1]));
-            case "abort": return desk.abort(number(words[1]));
-            case "escalate": return desk.escalate(number(words[1]), number(words[2]));
-            case "mode": return desk.mode(number(words[1]), number(words[2]));
-            case "told": return desk.told(number(words[1]), number(words[2]));
-            case "many": return desk.many(number(words[1]), Boolean.parseBoolean(words[2]));
-            case "at": return desk.at(number(words[1]), number(words[2]), Boolean.parseBoolean(words[3]));
-            case "waitsFor": return desk.waitsFor(number(words[1]));
-            case "count": return desk.count(number(words[1]));
-            case "astray": return desk.astray();
-            default: throw new AssertionError("no such call: " + words[0]);
-        }
-    }
-
-    private static int number(String word) {
-        return Integer.parseInt(word);
     }
 }

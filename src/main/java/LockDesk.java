@@ -369,6 +369,7 @@ public final class LockDesk {
     // The queues
 
     private void joinQueue(int transaction, int object, int wants) {
+        // One that asks is ACTIVE, so it does not stand in the line yet: there is room for one more.
         int place = heldMode(transaction, object) == NONE ? lineLength : placeOfNewcomers(object);
         for (int i = lineLength; i > place; i--) {
             line[i] = line[i - 1];
